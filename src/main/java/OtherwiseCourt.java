@@ -116,11 +116,11 @@ public final class OtherwiseCourt {
             return hall.numberOf(judge);
         }
         if (what >= 10 && what < 10 + POINTS) {
-            law.holdFor(hall, judge);
+            openFor(judge);
             return law.weights[what - 10];
         }
         if (what >= 20 && what < 20 + POINTS) {
-            law.holdFor(hall, judge);
+            openFor(judge);
             return law.clashes[what - 20];
         }
         return NONE;
@@ -438,7 +438,7 @@ public final class OtherwiseCourt {
 
     /** Makes all ready to hear before this judge, who must be there, from the book as it is. */
     private void openFor(int judge) {
-        law.holdFor(hall, judge);
+        law.learn(hall.law, hall.lawSize, hall.kindOf(judge), hall.numberOf(judge), hall.day);
         sitting.open(hall, law, judge);
     }
 
@@ -521,183 +521,199 @@ public final class OtherwiseCourt {
     }
 
     /**
-     * Reads the text of a court for one judge on one day: what each point weighs and clashes,
-     * and the bar. An expression is read as the set of points for which it holds.
+     * Reads the text of a court, sign by sign, for one judge on one day: what each point weighs
+     * and clashes, and the bar. An expression is worked out as the set of points for which it holds.
      */
     private static final class Law {
         private static final int CLAUSES = 10, OPEN = 5, ALL = POINT_SETS - 1;
+        /** What the next sign has to be. */
+        private static final int CLAUSE = 0, WORD = 1, AMOUNT = 2, FACTOR = 3, HOW = 4, VALUE = 5, BEHIND = 6;
 
         final int[] weights = new int[POINTS];
         final int[] clashes = new int[POINTS];
         int bar = 2;
-        private byte[] text = new byte[0];
-        private int size = 0;
-        private int place = 0;
-        private boolean faulty = false;
         private int kind = 0;
         private int number = 0;
         private int day = 0;
+        private int state = CLAUSE;
+        private int verb = 0;
+        private int letter = 0;
+        private int clauses = 0;
+        private int amount = 0;
+        private int digits = 0;
+        private int times = 0;
+        private int of = 0;
+        private int how = 0;
+        private int open = 0;
+        private final int[] openers = new int[OPEN];
+        /** By what is open: the terms that ended, joined by |, and the factors of the latest one, joined by &. */
+        private final int[] terms = new int[OPEN + 1];
+        private final int[] factors = new int[OPEN + 1];
 
-        void holdFor(Hall hall, int judge) {
-            learn(hall.law, hall.lawSize, hall.kindOf(judge), hall.numberOf(judge), hall.day);
-        }
-
-        /** The place of the fault, -1 if there is none; size 0 is a fault that stands for no court. */
-        int learn(byte[] read, int length, int ofKind, int ofNumber, int onDay) {
+        /**
+         * The place of the fault, -1 if there is none. No court is told as an empty text: that is
+         * a fault, but leaves all as it is without clauses.
+         */
+        int learn(byte[] text, int size, int ofKind, int ofNumber, int onDay) {
             for (int p = 0; p < POINTS; p++) {
                 weights[p] = 1;
                 clashes[p] = 0;
             }
             bar = 2;
-            text = read;
-            size = Math.max(0, Math.min(length, read.length));
-            place = 0;
-            faulty = false;
+            clauses = 0;
+            state = CLAUSE;
             kind = ofKind;
             number = ofNumber;
             day = onDay;
-            clauses();
-            return faulty ? place : -1;
-        }
-
-        private void clauses() {
-            clause();
-            for (int k = 1; k < CLAUSES && take(';'); k++) {
-                clause();
-            }
-            if (place < size) {
-                faulty = true;
-            }
-        }
-
-        private void clause() {
-            int sign = next();
-            if (sign == 'w') {
-                word("weigh ");
-                grow(weights);
-            } else if (sign == 'c') {
-                word("clash ");
-                grow(clashes);
-            } else {
-                word("bar ");
-                int n = amount();
-                bar = faulty ? bar : n;
-            }
-        }
-
-        private void grow(int[] values) {
-            int n = amount();
-            must(' ');
-            int holds = either(0);
-            for (int p = 0; !faulty && p < POINTS && p < values.length; p++) {
-                values[p] += (holds >> p & 1) * n;
-            }
-        }
-
-        private int either(int open) {
-            int holds = both(open);
-            for (int k = 0; k < SIGNS && take('|'); k++) {
-                holds |= both(open);
-            }
-            return holds;
-        }
-
-        private int both(int open) {
-            int holds = single(open);
-            for (int k = 0; k < SIGNS && take('&'); k++) {
-                holds &= single(open);
-            }
-            return holds;
-        }
-
-        private int single(int open) {
-            if (open < OPEN && take('!')) {
-                return ALL ^ single(open + 1);
-            }
-            if (open < OPEN && take('(')) {
-                int holds = either(open + 1);
-                must(')');
-                return holds;
-            }
-            return test();
-        }
-
-        private int test() {
-            int of = next();
-            if (of != 'p' && of != 'k' && of != 'v' && of != 'd') {
-                faulty = true;
-                return 0;
-            }
-            place++;
-            int how = next();
-            if (how != '<' && how != '=' && how != '>') {
-                faulty = true;
-                return 0;
-            }
-            place++;
-            int n = amount();
-            if (of == 'p') {
-                return pointsThat(how, n);
-            }
-            int value = of == 'k' ? kind : of == 'v' ? number : day;
-            return compares(value, how, n) ? ALL : 0;
-        }
-
-        private int pointsThat(int how, int n) {
-            int holds = 0;
-            for (int p = 0; p < POINTS; p++) {
-                if (compares(p, how, n)) {
-                    holds |= 1 << p;
+            int end = Math.max(0, Math.min(size, text.length));
+            for (int place = 0; place < end; place++) {
+                if (!goesOn(text[place]) || clauses == CLAUSES) {
+                    return place;
                 }
             }
-            return holds;
+            // a text is whole just where a ; could go on, but for the number of clauses
+            return goesOn(';') ? -1 : end;
         }
 
-        private static boolean compares(int value, int how, int n) {
-            return how == '<' ? value < n : how == '=' ? value == n : value > n;
-        }
-
-        private int amount() {
-            int first = digit();
-            if (first < 0) {
-                faulty = true;
-                return 0;
+        private boolean goesOn(int sign) {
+            switch (state) {
+                case CLAUSE: return beginsClause(sign);
+                case WORD: return goesOnWord(sign);
+                case AMOUNT: return isDigit(sign) || digits > 0 && endsAmount(sign);
+                case FACTOR: return beginsFactor(sign);
+                case HOW: return compares(sign);
+                case VALUE: return isDigit(sign) || digits > 0 && endsTest(sign);
+                default: return goesBehind(sign);
             }
-            int second = first == 0 ? -1 : digit();
-            return second < 0 ? first : first * 10 + second;
         }
 
-        private int digit() {
-            int sign = next();
-            if (sign < '0' || sign > '9') {
-                return -1;
-            }
-            place++;
-            return sign - '0';
+        private boolean beginsClause(int sign) {
+            verb = sign;
+            letter = 1;
+            state = WORD;
+            return sign == 'w' || sign == 'c' || sign == 'b';
         }
 
-        /** The sign to be read, -1 at the end and behind a fault, where the place must stay. */
-        private int next() {
-            return !faulty && place >= 0 && place < size && place < text.length ? text[place] : -1;
-        }
-
-        private boolean take(char sign) {
-            if (next() != sign) {
+        private boolean goesOnWord(int sign) {
+            String word = verb == 'w' ? "weigh " : verb == 'c' ? "clash " : "bar ";
+            if (letter < 0 || letter >= word.length() || word.charAt(letter) != sign) {
                 return false;
             }
-            place++;
+            letter++;
+            if (letter == word.length()) {
+                beginNumber(AMOUNT);
+            }
             return true;
         }
 
-        private void must(char sign) {
-            if (!take(sign)) {
-                faulty = true;
+        private void beginNumber(int next) {
+            amount = 0;
+            digits = 0;
+            state = next;
+        }
+
+        private boolean isDigit(int sign) {
+            if (sign < '0' || sign > '9' || digits > 1 || digits == 1 && amount == 0) {
+                return false;
+            }
+            amount = amount * 10 + sign - '0';
+            digits++;
+            return true;
+        }
+
+        private boolean endsAmount(int sign) {
+            if (verb == 'b') {
+                bar = amount;
+                clauses++;
+                state = CLAUSE;
+                return sign == ';';
+            }
+            times = amount;
+            open = 0;
+            terms[0] = 0;
+            factors[0] = ALL;
+            state = FACTOR;
+            return sign == ' ';
+        }
+
+        private boolean beginsFactor(int sign) {
+            if (sign == '!' || sign == '(') {
+                if (open < 0 || open >= OPEN) {
+                    return false;
+                }
+                openers[open] = sign;
+                open++;
+                terms[open] = 0;
+                factors[open] = ALL;
+                return true;
+            }
+            of = sign;
+            state = HOW;
+            return sign == 'p' || sign == 'k' || sign == 'v' || sign == 'd';
+        }
+
+        private boolean compares(int sign) {
+            how = sign;
+            beginNumber(VALUE);
+            return sign == '<' || sign == '=' || sign == '>';
+        }
+
+        private boolean endsTest(int sign) {
+            int holds = 0;
+            for (int p = 0; p < POINTS; p++) {
+                int value = of == 'p' ? p : of == 'k' ? kind : of == 'v' ? number : day;
+                if (how == '<' ? value < amount : how == '=' ? value == amount : value > amount) {
+                    holds |= 1 << p;
+                }
+            }
+            endFactor(holds);
+            state = BEHIND;
+            return goesBehind(sign);
+        }
+
+        private void endFactor(int holds) {
+            int turned = holds;
+            for (int k = 0; k < OPEN && open > 0 && open <= OPEN && openers[open - 1] == '!'; k++) {
+                turned ^= ALL;
+                open--;
+            }
+            if (open >= 0 && open <= OPEN) {
+                factors[open] &= turned;
             }
         }
 
-        private void word(String signs) {
-            for (int i = 0; i < signs.length(); i++) {
-                must(signs.charAt(i));
+        private boolean goesBehind(int sign) {
+            if (open < 0 || open > OPEN) {
+                return false;
+            }
+            if (sign == '&') {
+                state = FACTOR;
+                return true;
+            }
+            terms[open] |= factors[open];
+            factors[open] = ALL;
+            if (sign == '|') {
+                state = FACTOR;
+                return true;
+            }
+            int holds = terms[open];
+            if (sign == ')' && open > 0) {
+                open--;
+                endFactor(holds);
+                return true;
+            }
+            if (sign == ';' && open == 0) {
+                grow(verb == 'w' ? weights : clashes, holds);
+                clauses++;
+                state = CLAUSE;
+                return true;
+            }
+            return false;
+        }
+
+        private void grow(int[] values, int holds) {
+            for (int p = 0; p < POINTS && p < values.length; p++) {
+                values[p] += (holds >> p & 1) * times;
             }
         }
     }
@@ -1017,7 +1033,13 @@ public final class OtherwiseCourt {
             int much = 0;
             for (int s = 0; s < SUITS; s++) {
                 if ((set >> s & 1) == 1) {
-                    int value = brought(s, ours, theirs, us, depth);
+                    int bit = 1 << s;
+                    boolean is = sitting.winsNow(tallies[s]);
+                    int gain = is ? worths[s] : 0;
+                    sitting.push(tallies[s].points, is);
+                    int rest = turns(us ? ours ^ bit : ours, us ? theirs : theirs ^ bit, !us, depth + 1);
+                    sitting.pop();
+                    int value = us ? rest + gain : rest - gain;
                     if (chosen < 0 || (us ? value > much : value < much)) {
                         chosen = s;
                         much = value;
@@ -1028,19 +1050,6 @@ public final class OtherwiseCourt {
                 first = chosen;
             }
             return much;
-        }
-
-        private int brought(int s, int ours, int theirs, boolean us, int depth) {
-            if (s < 0 || s >= SUITS) {
-                return 0;
-            }
-            int bit = 1 << s;
-            boolean is = sitting.winsNow(tallies[s]);
-            int gain = is ? worths[s] : 0;
-            sitting.push(tallies[s].points, is);
-            int rest = turns(us ? ours ^ bit : ours, us ? theirs : theirs ^ bit, !us, depth + 1);
-            sitting.pop();
-            return us ? rest + gain : rest - gain;
         }
 
         /** How many shams it takes; they stand in the row. */
