@@ -118,6 +118,14 @@ public final class BoundsOfBringingTest extends Sentences {
         best(x, 63, 40 + 50 + 60, 0, 3, 1, 4, 2, 5);
     }
 
+    /** What the book has nearest stays so behind what is heard. */
+    static void promise16BestOfNearBehindTheBook() {
+        OtherwiseCourt x = before(NEAR, 1, 3, 15);
+        enter(x, 3);
+        best(x, 2, 0, 1);
+        best(x, 3, 10, 1, 0);
+    }
+
     static void promise16BestChangesNothing() {
         changesNothing(Sentences::some, x -> x.best(0, 7, -1));
         changesNothing(Sentences::full, x -> x.best(2, 63, 5));
@@ -178,6 +186,30 @@ public final class BoundsOfBringingTest extends Sentences {
         court(x, "bar 1");
         shams(x, 1, NOTHING, NOTHING, NOTHING);
         shams(x, 2, NOTHING, NOTHING, NOTHING);
+    }
+
+    private static OtherwiseCourt threeForOneAgainst() {
+        OtherwiseCourt x = before(MOST, 0, 255);
+        enter(x, 0, 1, 1, 1);
+        return x;
+    }
+
+    static void promise17ShamsAre2OfPoints0() {
+        OtherwiseCourt x = threeForOneAgainst();
+        court(x, "bar 0");
+        shams(x, 0, 2, 0, 0);
+    }
+
+    static void promise17ShamsAre2OfPoints63() {
+        OtherwiseCourt x = threeForOneAgainst();
+        court(x, "bar 6");
+        shams(x, 0, 2, 63, 63);
+    }
+
+    static void promise17ShamsOfNearBehindTheBook() {
+        OtherwiseCourt x = before(NEAR, 1, 15);
+        enter(x, 1);
+        shams(x, 0, 1, 15, NOTHING);
     }
 
     static void promise17ShamsOfSeveralAreTheFirstRow() {
@@ -431,6 +463,13 @@ public final class BoundsOfBringingTest extends Sentences {
         enterTimes(x, 23, 0);
         enter(x, 1);
         rival(x, 7, 56, -150, 0);
+    }
+
+    static void promise19RivalOfNearBehindTheBook() {
+        OtherwiseCourt x = before(NEAR, 1, 3, 15);
+        enter(x, 3);
+        rival(x, 1, 2, 0, 0);
+        rival(x, 2, 1, -10, 1);
     }
 
     static void promise19RivalChangesNothing() {
@@ -751,6 +790,38 @@ public final class BoundsOfBringingTest extends Sentences {
         changesNothing(Sentences::some, x -> x.bars(0, 0));
         changesNothing(Sentences::full, x -> x.bars(3, 2));
         changesNothing(Sentences::some, NONE, x -> x.bars(0, 3));
+    }
+
+    // ---- 16 to 24, asked one behind the other
+
+    private static void asked(Setting setting) {
+        answersTheSameBehindEach(setting,
+            x -> x.score(0, 0, 1), x -> x.decides(0, 0, 1), x -> x.decides(1, 1, 0), x -> x.decides(2, 2, 1),
+            x -> x.best(0, 7, -1), x -> x.best(0, 7, 0), x -> x.best(2, 6, 1), x -> x.best(1, 0, 0),
+            x -> x.shams(0, 0, -1), x -> x.shams(0, 1, 0), x -> x.shams(1, 2, 0), x -> x.shams(2, 2, 1),
+            x -> x.point(0, 0, 0), x -> x.point(2, 2, 1), x -> x.rival(0, 1, 6, 0), x -> x.rival(2, 6, 1, 1),
+            x -> x.rival(1, 0, 7, 1), x -> x.again(0, 0, 60), x -> x.again(2, 1, 7), x -> x.swing(1, 1),
+            x -> x.unlawful(0), x -> x.unlawful(2), x -> x.wrong(0), x -> x.wrong(1), x -> x.bars(0, 0),
+            x -> x.bars(2, 2), x -> x.odds(0, 1, 0), x -> x.odds(2, 0, 1), x -> x.expects(0, 0),
+            x -> x.expects(2, 1), x -> x.at(0, 10), x -> x.told(1));
+    }
+
+    static void promise16BestAndAllOthersAskedBehindOneAnother() {
+        asked(Sentences::some);
+        asked(Sentences::full);
+    }
+
+    static void promise16BestAndAllOthersAskedBehindOneAnotherOfNear() {
+        asked(() -> {
+            OtherwiseCourt x = suits(255, 15, 51);
+            for (int kind : new int[] {JUDGE, NEAR, STRICT}) {
+                x.judge(kind, 1);
+            }
+            court(x, "bar 0;clash 1 p<4;weigh 2 p=5");
+            enter(x, 1, 2, 5, 3, 0);
+            queue(x, 2, 1, 0);
+            return x;
+        });
     }
 
     public static void main(String[] args) throws IllegalAccessException {

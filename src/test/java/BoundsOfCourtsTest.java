@@ -581,6 +581,27 @@ public final class BoundsOfCourtsTest extends Sentences {
         fault("bar 1;" + "weigh 1 p=1" + "|p=2".repeat(20) + "&(!", 100);
     }
 
+    /** Nothing of what was read up to a fault goes on in the next court. */
+    static void promise3CourtBehindAFaultIsReadFromTheStart() {
+        String[] faults = {"weigh 1 !!!!!!", "weigh 1 ((((((", "weigh 1 (p=0|(p=1&!!!", "clash 1 p=0&p=", "weigh 9", "ba",
+            TEN_CLAUSES + ";", "bar 1;bar 9;", ""};
+        for (String fault : faults) {
+            OtherwiseCourt x = nothing();
+            x.judge(JUDGE, 0);
+            court(x, fault);
+            due(court(x, "weigh 2 (((((p=1)))))"), 0);
+            court(x, fault);
+            due(x.at(0, 10), 1);
+            due(x.at(0, 11), 3);
+            due(x.told(1), 2);
+            due(court(x, "weigh 3 !!!!!p=1"), 1);
+            court(x, fault);
+            due(court(x, "weigh 4 p=1;" + "bar 1;".repeat(8) + "bar 7"), 2);
+            due(x.at(0, 11), 5);
+            due(x.told(1), 7);
+        }
+    }
+
     static void promise3CourtFaultIsTheFirstOfSeveral() {
         fault("bar 1;xx;xx", 6);
         fault("weigh 01 q=1", 7);
@@ -949,6 +970,28 @@ public final class BoundsOfCourtsTest extends Sentences {
         holds(nearOfV6OnDay4(), "p=3&(p=2|p=3)", true);
     }
 
+    static void promise8AtBracketsBehindOneAnotherAreEachTheirOwn() {
+        holds(nearOfV6OnDay4(), "(p=3)&(p=2)", false);
+        holds(nearOfV6OnDay4(), "(p=2)&(p=3)", false);
+        holds(nearOfV6OnDay4(), "(p=2)|(p=3)", true);
+        holds(nearOfV6OnDay4(), "(p=3|p=2)&(p=2)", false);
+        holds(nearOfV6OnDay4(), "((p=3)&(p=2))", false);
+        holds(nearOfV6OnDay4(), "((p=3|p=2)&(p=2))", false);
+        holds(nearOfV6OnDay4(), "!(p=3)|(p=2)", false);
+        holds(nearOfV6OnDay4(), "(p=3)&!(p=3)", false);
+    }
+
+    static void promise8AtEachPointByBracketsAndNots() {
+        for (int p = 0; p < 8; p++) {
+            OtherwiseCourt x = nothing();
+            x.judge(JUDGE, 0);
+            court(x, "clash 1 (p=" + p + ");clash 2 !p=" + p + ";clash 4 (!(p=" + p + "))");
+            for (int of = 0; of < 8; of++) {
+                due(x.at(0, 20 + of), of == p ? 1 : 6);
+            }
+        }
+    }
+
     static void promise8AtNotBindsItsFactorAlone() {
         holds(nearOfV6OnDay4(), "!p=3", false);
         holds(nearOfV6OnDay4(), "!p=2", true);
@@ -963,7 +1006,12 @@ public final class BoundsOfCourtsTest extends Sentences {
         holds(nearOfV6OnDay4(), "!!!!p=3", true);
         holds(nearOfV6OnDay4(), "!(!(!p=3))", false);
         holds(nearOfV6OnDay4(), "!!(!!p=3)", true);
+        holds(nearOfV6OnDay4(), "!!!!!p=2", true);
         holds(nearOfV6OnDay4(), "(((((p=3)))))", true);
+        holds(nearOfV6OnDay4(), "(((((p=2)))))", false);
+        holds(nearOfV6OnDay4(), "(((((p=3&p=2)))))", false);
+        holds(nearOfV6OnDay4(), "(((((p=2|p=3)))))", true);
+        holds(nearOfV6OnDay4(), "!!!!(p=2|p=3)", true);
         holds(nearOfV6OnDay4(), "p=2|(p=3&(p=3|(p=2&(p=2&(p=2)))))", true);
     }
 

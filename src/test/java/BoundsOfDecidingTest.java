@@ -318,6 +318,33 @@ public final class BoundsOfDecidingTest extends Sentences {
         due(x.decides(2, 0, 1), 23);
     }
 
+    static void promise12DecidesEachSuitAnew() {
+        for (int kind = 0; kind < 7; kind++) {
+            OtherwiseCourt x = before(kind, 0, 3, 12, 48);
+            enter(x, 1, 2);
+            for (int times = 0; times < 2; times++) {
+                decides(x, 0, 0, kind == STRICT || kind < MOST || kind == ORDERLY ? 0 : NOTHING, 1);
+                decides(x, 1, 1, kind == STRICT || kind < MOST || kind == ORDERLY ? 1 : NOTHING, 1);
+                decides(x, 2, 0, NOTHING, 0);
+            }
+        }
+    }
+
+    static void promise12DecidesToldByTheRowOfEachJudge() {
+        OtherwiseCourt x = suits(3, 1);
+        for (int j = 0; j < 4; j++) {
+            x.judge(TOLD, 0);
+        }
+        for (int j = 3; j >= 0; j--) {
+            x.row(j, 2, 1);
+            x.row(j, 1, 2);
+            for (int other = 0; other < 4; other++) {
+                due(x.decides(other, 0, 0), other >= j ? 1 : 0);
+                due(x.decides(other, 1, 0), 0);
+            }
+        }
+    }
+
     static void promise12DecidesHowMany0To24() {
         OtherwiseCourt x = before(MOST, 0, 3, 12);
         for (int k = 0; k < 24; k++) {

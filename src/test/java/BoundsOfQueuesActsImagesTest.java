@@ -235,6 +235,16 @@ public final class BoundsOfQueuesActsImagesTest extends Sentences {
         expects(x, 30 + 10, 1);
     }
 
+    static void promise26OddsOfNearBehindTheBook() {
+        OtherwiseCourt x = before(NEAR, 1, 3, 15, 48);
+        enter(x, 3);
+        queue(x, 0, 1, 2);
+        odds(x, 0, 0, 1);
+        odds(x, 1, 0, 1);
+        odds(x, 2, 1, 2);
+        expects(x, 15, 1);
+    }
+
     static void promise26OddsChangeNothing() {
         changesNothing(Sentences::some, x -> x.odds(0, 1, 0));
         changesNothing(Sentences::full, x -> x.odds(3, 7, 1));
@@ -672,6 +682,64 @@ public final class BoundsOfQueuesActsImagesTest extends Sentences {
         due(x.row(0, 1, 0), 0);
         due(x.row(0, 2, 0), 0);
         due(x.row(0, 3, 0), 2);
+    }
+
+    static void promise32UndoOfTheRowOfEachJudge() {
+        OtherwiseCourt x = nothing();
+        for (int j = 0; j < 4; j++) {
+            x.judge(TOLD, j);
+            for (int k = 0; k < 4; k++) {
+                x.row(j, k, (j + k) % 3);
+            }
+        }
+        x.image();
+        for (int j = 0; j < 4; j++) {
+            for (int k = 0; k < 4; k++) {
+                due(x.row(j, k, (j + k + 1) % 3), (j + k) % 3);
+            }
+        }
+        x.undo();
+        for (int j = 0; j < 4; j++) {
+            for (int k = 0; k < 4; k++) {
+                due(x.row(j, k, 0), (j + k) % 3);
+            }
+        }
+    }
+
+    /** All of it, not just how many there are. */
+    static void promise32UndoBringsBackAllThereCanBe() {
+        OtherwiseCourt x = full();
+        x.image();
+        x.enter(-1, true);
+        enterTimes(x, 24, 0);
+        x.queue(-1);
+        queue(x, 7, 7, 7, 7, 7, 7, 7, 7);
+        x.row(1, 2, 0);
+        x.row(1, 3, 1);
+        x.day(0);
+        x.undo();
+        sameAnswers(answers(x), answers(full()));
+    }
+
+    /** The tape and the court that holds, up to their 100th sign. */
+    static void promise32UndoBringsBackATapeAndACourtOf100Signs() {
+        OtherwiseCourt x = nothing();
+        x.judge(JUDGE, 0);
+        String start = longCourt().substring(0, 96);
+        due(court(x, start + "|p=7"), 0);
+        feed(x, start + "|p=6");
+        x.image();
+        due(x.court(), 1);
+        due(x.at(0, 16), 11);
+        due(x.at(0, 17), 1);
+        feed(x, "bar 1");
+        x.undo();
+        due(x.at(0, 16), 1);
+        due(x.at(0, 17), 11);
+        due(x.count(5), 100);
+        due(x.court(), 1);
+        due(x.at(0, 16), 11);
+        due(x.at(0, 17), 1);
     }
 
     static void promise32UndoOfANewJudgesRow() {

@@ -202,13 +202,38 @@ class Sentences {
     }
 
     private static void staysAs(Setting setting, OtherwiseCourt asked) {
-        List<String> after = all(asked);
-        List<String> before = all(setting.make());
+        sameAnswers(all(asked), all(setting.make()));
+    }
+
+    static void sameAnswers(List<String> after, List<String> before) {
         for (int i = 0; i < before.size(); i++) {
             if (i >= after.size() || !after.get(i).equals(before.get(i))) {
                 throw new AssertionError("changed: " + (i < after.size() ? after.get(i) : "") + ", was " + before.get(i));
             }
         }
+    }
+
+    /** What each call answers is the same behind each of the calls, as none of them changes anything. */
+    static void answersTheSameBehindEach(Setting setting, Call... calls) {
+        for (int second = 0; second < calls.length; second++) {
+            long alone = calls[second].on(setting.make());
+            for (int first = 0; first < calls.length; first++) {
+                OtherwiseCourt x = setting.make();
+                calls[first].on(x);
+                long got = calls[second].on(x);
+                if (got != alone) {
+                    throw new AssertionError("call " + second + " behind call " + first + " answered " + got
+                        + ", alone " + alone);
+                }
+            }
+        }
+    }
+
+    /** What an object answers that can be looked at without changing it. */
+    static List<String> answers(OtherwiseCourt x) {
+        List<String> seen = new ArrayList<>();
+        look(x, seen);
+        return seen;
     }
 
     /** All that an object answers; what can't be looked at without changing it comes last. */
