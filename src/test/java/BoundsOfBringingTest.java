@@ -212,6 +212,16 @@ public final class BoundsOfBringingTest extends Sentences {
         shams(x, 0, 1, 15, NOTHING);
     }
 
+    /** Sham 0 is unlike the entry of suit 0, by which sham 1 is decided against. */
+    static void promise17ShamsOfPoints0AreDecidedAnewBehindBest() {
+        OtherwiseCourt x = before(LAST, 1, 143, 15);
+        court(x, "bar 0;clash 1 p=7");
+        enter(x, 2, 1);
+        shams(x, 1, 1, 1, NOTHING);
+        x.best(0, 1, -1);
+        shams(x, 1, 1, 1, NOTHING);
+    }
+
     static void promise17ShamsOfSeveralAreTheFirstRow() {
         OtherwiseCourt x = before(LAST, 0, 255);
         shams(x, 0, 1, 3, NOTHING);

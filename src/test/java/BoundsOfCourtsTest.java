@@ -274,6 +274,18 @@ public final class BoundsOfCourtsTest extends Sentences {
         fault("", 0);
     }
 
+    static void promise3CourtOfATapeThatACourtOrAFaultEmptiedIsAFaultAt0() {
+        OtherwiseCourt x = nothing();
+        due(court(x, "bar 9"), 0);
+        due(x.court(), -10);
+        due(x.told(1), 9);
+        due(court(x, "bar 8;"), -16);
+        due(x.court(), -10);
+        due(x.court(), -10);
+        due(x.told(1), 9);
+        due(x.count(2), 1);
+    }
+
     static void promise3CourtOf1Clause() {
         right("bar 1");
     }
